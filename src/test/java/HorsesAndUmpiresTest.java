@@ -7,6 +7,7 @@ public final class HorsesAndUmpiresTest {
         rollAnswers();
         rollRefuses();
         rollTiredHorse();
+        rollAtTheWettest();
         rollingMakesRuts();
         bestHorse();
         umpire();
@@ -14,6 +15,7 @@ public final class HorsesAndUmpiresTest {
         callWet();
         fitIn();
         fitInAtTheEnd();
+        fitTooLate();
         bestPitch();
         Due.end();
     }
@@ -177,6 +179,24 @@ public final class HorsesAndUmpiresTest {
         Due.is(20, "13: at most 20", () -> x.horseOf(0, 2));
         x.pass(3);
         Due.refused(x, 3, 20, "13: tired", () -> x.roll(0, 1, 1));
+    }
+
+    private static void rollAtTheWettest() {
+        RollerHorses x = new RollerHorses();
+        x.pitch();
+        x.horse(2, false);
+        x.rain(0, 9);
+        x.rain(1, 1);
+        x.rain(2, 1);
+        x.pass(2);
+        Due.is(60, "13: wetness", () -> x.pitchOf(0, 0));
+        Due.is(0, "14: at 60 it could roll", () -> x.bestHorse(0));
+        Due.is(12, "13: at 60 it rolls", () -> x.roll(0, 0, 1));
+        x.undo();
+        x.pass(1);
+        Due.is(64, "13: wetness", () -> x.pitchOf(0, 0));
+        Due.noElement("14: above 60 it could not", () -> x.bestHorse(0));
+        Due.refused(x, 7, 64, "13: above 60 it does not roll", () -> x.roll(0, 0, 1));
     }
 
     private static void rollingMakesRuts() {
@@ -394,6 +414,22 @@ public final class HorsesAndUmpiresTest {
         Due.is(48, "17: 20, 17 and then 14, in 48 hours", () -> y.fitIn(0, 0));
         y.light(0, 5);
         Due.noElement("17: 20, 18 and then 16", () -> y.fitIn(0, 0));
+    }
+
+    private static void fitTooLate() {
+        RollerHorses x = new RollerHorses();
+        x.pitch();
+        x.umpire(9);
+        for (int hour = 0; hour < 24; hour++) {
+            x.light(hour, 1);
+        }
+        x.pass(23);
+        x.light(0, 6);
+        Due.noElement("17: 20, 17 and then 14, in 49 hours", () -> x.fitIn(0, 0));
+        x.pass(1);
+        Due.is(48, "17: in 48 hours", () -> x.fitIn(0, 0));
+        x.pass(48);
+        Due.is(0, "17: now", () -> x.fitIn(0, 0));
     }
 
     private static void bestPitch() {

@@ -277,6 +277,20 @@ public final class InningsTest {
         Due.noElement("26: ranked", () -> x.ranked(5));
         Due.noElement("26: ranked", () -> x.ranked(-1));
         Due.noElement("26: ranked", () -> x.ranked(Integer.MIN_VALUE));
+        rankedFromTheFirst();
+    }
+
+    private static void rankedFromTheFirst() {
+        RollerHorses x = ground();
+        x.pitch();
+        x.innings(0, 0, 12);
+        x.innings(1, 0, 12);
+        Due.is(0, "26: the lowest first", () -> x.ranked(0));
+        Due.is(1, "26: then the other", () -> x.ranked(1));
+        x.bowl(0, 2);
+        x.bowl(1, 1);
+        Due.is(0, "26: the most runs first", () -> x.ranked(0));
+        Due.is(1, "26: then the other", () -> x.ranked(1));
     }
 
     private static void pass() {
